@@ -547,9 +547,7 @@ public final class LeastTerms {
 
         void copy(Wide w) {
             int n = Math.min(w.used, row.length);
-            for (int i = 0; i < n; i++) {
-                put(i, w.limbAt(i));
-            }
+            System.arraycopy(w.row, 0, row, 0, n);
             trim(n);
         }
 
@@ -616,21 +614,35 @@ public final class LeastTerms {
 
         /** Becomes a times b; may not itself be one of them. */
         void multiply(Wide a, Wide b) {
-            used = Math.min(a.used + b.used, row.length);
-            for (int i = 0; i < used; i++) {
+            clear();
+            addProduct(a, b);
+        }
+
+        /** Becomes itself and a times b; may not itself be one of them. */
+        void addProduct(Wide a, Wide b) {
+            int n = Math.min(Math.max(used, a.used + b.used) + 1, row.length);
+            for (int i = used; i < n; i++) {
                 put(i, 0);
             }
+            used = n;
             for (int i = 0; i < a.used; i++) {
                 addTimes(b, a.limbAt(i), i);
             }
-            trim(used);
+            trim(n);
         }
 
+        /** Adds so many times b from limb at on, which is not below 0. */
         private void addTimes(Wide b, long factor, int at) {
+            int n = Math.min(b.used, used - at);
             long carry = 0;
-            for (int j = 0; j <= b.used; j++) {
-                long sum = factor * b.limbAt(j) + limbAt(at + j) + carry;
-                put(at + j, sum);
+            for (int j = 0; j < n; j++) {
+                long sum = factor * (b.row[j] & LIMB) + (row[at + j] & LIMB) + carry;
+                row[at + j] = (int) sum;
+                carry = sum >>> 32;
+            }
+            for (int i = at + n; i < used && carry != 0; i++) {
+                long sum = (row[i] & LIMB) + carry;
+                row[i] = (int) sum;
                 carry = sum >>> 32;
             }
         }
@@ -729,16 +741,17 @@ public final class LeastTerms {
             return x - q * d >= d ? q + 1 : q;
         }
 
-        /** Whether q times the divisor was there to be taken from limb j on. */
+        /** Takes q times the divisor from limb j on, which is not below 0: whether so much was there. */
         private boolean takeTimes(Wide divisor, long q, int j) {
+            int n = Math.min(divisor.used, used - j);
             long carry = 0;
-            for (int i = 0; i < divisor.used; i++) {
-                long product = q * divisor.limbAt(i) + carry;
-                long rest = limbAt(j + i) - (product & LIMB);
-                put(j + i, rest);
+            for (int i = 0; i < n; i++) {
+                long product = q * (divisor.row[i] & LIMB) + carry;
+                long rest = (row[j + i] & LIMB) - (product & LIMB);
+                row[j + i] = (int) rest;
                 carry = (product >>> 32) + (rest >>> 63);
             }
-            return limbAt(j + divisor.used) >= carry;
+            return limbAt(j + n) >= carry;
         }
 
         private void putBack(Wide divisor, int j) {
@@ -906,12 +919,21 @@ public final class LeastTerms {
             raise(result.bottom, n < 0 ? x.top : x.bottom, times);
         }
 
-        /** Stops where it is too wide: it stays so, as the other row has no factor of this one. */
         private void raise(Wide into, Wide base, int times) {
             into.become(1);
-            for (int i = 0; i < times && into.bits() <= NUMBER_BITS; i++) {
-                spare.multiply(into, base);
-                into.copy(spare);
+            for (int bit = MOST_POWER; bit > 0; bit >>= 1) {
+                grow(into, into);
+                if ((times & bit) != 0) {
+                    grow(into, base);
+                }
+            }
+        }
+
+        /** What is too wide is left so: it would stay that, as the other row has no factor of it. */
+        private void grow(Wide w, Wide factor) {
+            if (w.bits() <= NUMBER_BITS) {
+                spare.multiply(factor, w);
+                w.copy(spare);
             }
         }
 
@@ -1013,7 +1035,7 @@ public final class LeastTerms {
         private Wide bottom = new Wide(WORK_LIMBS);
         private Wide topBefore = new Wide(WORK_LIMBS);
         private Wide bottomBefore = new Wide(WORK_LIMBS);
-        private Wide spare = new Wide(WORK_LIMBS);
+        private final Wide spare = new Wide(WORK_LIMBS);
 
         void begin(Ratio x) {
             headSign = x.sign;
@@ -1079,18 +1101,14 @@ public final class LeastTerms {
         }
 
         private void join() {
-            spare.multiply(link, top);
-            spare.add(topBefore);
+            topBefore.addProduct(link, top);
             Wide w = topBefore;
             topBefore = top;
-            top = spare;
-            spare = w;
-            spare.multiply(link, bottom);
-            spare.add(bottomBefore);
+            top = w;
+            bottomBefore.addProduct(link, bottom);
             w = bottomBefore;
             bottomBefore = bottom;
-            bottom = spare;
-            spare = w;
+            bottom = w;
         }
 
         /** The head and top / bottom. */

@@ -107,7 +107,7 @@ final class Due {
     static void tell(String fault) {
         wrong++;
         if (wrong <= 40) {
-            System.out.println(fault);
+            System.out.println(fault.length() > 600 ? fault.substring(0, 600) + " .." : fault);
         }
     }
 
