@@ -10,7 +10,7 @@ public final class LeastTerms {
     private static final int PLACES = 24;
     private static final int NUMBER_BITS = 512;
     private static final int NUMBER_LIMBS = 16;
-    // The widest row of any call is the top of a sum: two products of 1024 bits and a carry.
+    // The widest rows of any call are of 1075 bits: the least double's D, before it is known to be WIDE.
     private static final int WORK_LIMBS = 36;
     private static final long LIMB = 0xffffffffL;
     private static final long TOP_BIT = 1L << 63;
@@ -339,11 +339,9 @@ public final class LeastTerms {
         long fraction = bits & DOUBLE_FRACTION;
         long size = field == 0 ? fraction : fraction | (DOUBLE_FRACTION + 1);
         int exponent = Math.max(field, 1) - 1 + DOUBLE_LEAST;
-        int zeros = size == 0 ? 0 : Long.numberOfTrailingZeros(size);
-        bench.result.become(bits < 0 ? -1 : 1, size >>> zeros);
-        if (!bench.result.timesPowerOfTwo(exponent + zeros)) {
-            return WIDE;
-        }
+        bench.result.become(bits < 0 ? -1 : 1, size);
+        bench.result.top.shiftLeft(exponent);
+        bench.result.bottom.shiftLeft(-exponent);
         return keep();
     }
 
@@ -398,7 +396,7 @@ public final class LeastTerms {
     }
 
     public int out(int i) {
-        return i >= 0 && i < sheet.length ? sheet.at(i) : NONE;
+        return sheet.at(i);
     }
 
     public int period(int a, int what) {
@@ -821,19 +819,6 @@ public final class LeastTerms {
                 top.subtract(size, top);
             }
         }
-
-        /** Of a whole number that is 0 or odd: whether there was room for it. */
-        boolean timesPowerOfTwo(int n) {
-            if (top.isZero()) {
-                return true;
-            }
-            if (n >= 0 ? top.bits() + n > NUMBER_BITS : 1 - n > NUMBER_BITS) {
-                return false;
-            }
-            top.shiftLeft(n);
-            bottom.shiftLeft(-n);
-            return true;
-        }
     }
 
     /** Where fractions are reckoned; what comes of it stands in its result. */
@@ -919,6 +904,7 @@ public final class LeastTerms {
             raise(result.bottom, n < 0 ? x.top : x.bottom, times);
         }
 
+        /** By squares, from the highest bit on that times may have: that of MOST_POWER. */
         private void raise(Wide into, Wide base, int times) {
             into.become(1);
             for (int bit = MOST_POWER; bit > 0; bit >>= 1) {

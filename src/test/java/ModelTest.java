@@ -69,7 +69,7 @@ public final class ModelTest {
 
     /** Limbs at the edges are where a division guesses wrong. */
     private BigInteger edgyNumber(int mostLimbs) {
-        long[] edges = {0, 1, 0x7fffffffL, 0x80000000L, 0x80000001L, 0xfffffffeL, 0xffffffffL};
+        long[] edges = {0, 1, 0x7fffffffL, 0x80000000L, 0x80000001L, 0xfffffffdL, 0xfffffffeL, 0xffffffffL};
         BigInteger v = BigInteger.ZERO;
         for (int i = 1 + random.nextInt(mostLimbs); i > 0; i--) {
             v = v.shiftLeft(32).add(BigInteger.valueOf(edges[random.nextInt(edges.length)]));
@@ -286,11 +286,33 @@ public final class ModelTest {
         return new Model.Fraction(new BigInteger(sides[0]), sides.length > 1 ? new BigInteger(sides[1]) : BigInteger.ONE);
     }
 
+    /** Whole numbers of limbs at the edges: the rest of one by the other, and what they make as a chain. */
+    private void divisions() {
+        for (int i = 0; i < 20000; i++) {
+            BigInteger n = edgyNumber(16);
+            BigInteger d = edgyNumber(random.nextBoolean() ? 3 : 12).max(BigInteger.ONE);
+            int a = Due.read(x, n.toString());
+            int b = Due.read(x, d.toString());
+            int rest = x.apply(3, a, b);
+            m.numbers[0] = new Model.Fraction(n, BigInteger.ONE);
+            m.numbers[1] = new Model.Fraction(d, BigInteger.ONE);
+            m.numbers[2] = new Model.Fraction(n.mod(d), BigInteger.ONE);
+            int ratio = x.over(a, b);
+            m.numbers[3] = Model.Fraction.of(n, d);
+            Due.is("the rest of " + n + " by " + d, Due.state(x), modelState());
+            Due.is("the terms of " + n + " / " + d, x.terms(ratio), m.terms(3));
+            for (int place = 0; place < 4; place++) {
+                x.drop(place);
+            }
+        }
+    }
+
     public static void main(String[] args) {
         int runs = args.length > 0 ? Integer.parseInt(args[0]) : RUNS;
         for (int seed = 1; seed <= runs; seed++) {
             new ModelTest(seed).run();
         }
+        new ModelTest(0).divisions();
         roundings();
         Due.end("ModelTest");
     }

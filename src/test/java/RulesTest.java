@@ -96,7 +96,7 @@ public final class RulesTest {
         String[] ruledOut = {
             "\\bimport\\b", "\\bpackage\\b", "->", "::", "\\btry\\b", "\\bcatch\\b", "\\bfinally\\b", "\\bsynchronized\\b",
             "\\bassert\\b", "\\bdouble\\b", "\\bfloat\\b", "\\bfor \\(;;", "while \\(true", "Exact\\(", "static \\{", "System\\.(?!arraycopy)",
-            "Long\\.(?!numberOfTrailingZeros|compare)", "Integer\\.(?!numberOfLeadingZeros)", "Math\\.(?!min|max|abs)",
+            "Long\\.(?!compare)", "Integer\\.(?!numberOfLeadingZeros)", "Math\\.(?!min|max|abs)",
             "throw new (?!ArithmeticException|NegativeArraySizeException|ArrayIndexOutOfBoundsException)",
         };
         for (String s : ruledOut) {
