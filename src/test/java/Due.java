@@ -1,6 +1,7 @@
-import java.util.function.LongSupplier;
+import java.util.function.Supplier;
+import java.util.function.ToLongFunction;
 
-/** What the tests share: holding answers against those that are due, and looking at an object's state. */
+/** Holds answers against those that are due. */
 final class Due {
     private static int wrong = 0;
     private static int asked = 0;
@@ -22,92 +23,65 @@ final class Due {
         }
     }
 
-    /** A call that is refused, and changes nothing. */
-    static void refused(LeastTerms x, String what, LongSupplier call, long want) {
-        String before = state(x);
-        is(what, call.getAsLong(), want);
-        is("the state behind " + what, state(x), before);
+    static void isTrue(String what, boolean got) {
+        is(what, got ? "true" : "false", "true");
     }
 
-    /** A call that throws just this class of exception, and changes nothing. */
-    static void thrown(LeastTerms x, String what, LongSupplier call, Class<? extends RuntimeException> want) {
-        String before = state(x);
-        String got;
+    /** The call makes a NUMBER more, and it is this one. */
+    static void makes(String what, Supplier<Counted> start, ToLongFunction<Counted> call, Object want) {
+        Counted t = start.get();
+        int before = t.count();
+        is(what, t.value((int) call.applyAsLong(t)), want.toString());
+        is("count behind " + what, t.count(), before + 1);
+    }
+
+    /** The call is refused so, and nothing is changed: a twin that was not asked looks the same. */
+    static void refused(String what, Supplier<Counted> start, ToLongFunction<Counted> call, long want) {
+        refusedInto(what, start, call, want, start);
+    }
+
+    /** The same for a call that leaves something changed, as the end has it. */
+    static void refusedInto(String what, Supplier<Counted> start, ToLongFunction<Counted> call, long want, Supplier<Counted> end) {
+        Counted t = start.get();
+        is(what, answer(t, call), "" + want);
+        is("the state behind " + what, t.lastState(), end.get().lastState());
+    }
+
+    /** The call throws just this class of exception, and nothing is changed. */
+    static void thrown(String what, Supplier<Counted> start, ToLongFunction<Counted> call, Class<? extends RuntimeException> want) {
+        thrownInto(what, start, call, want, start);
+    }
+
+    static void thrownInto(String what, Supplier<Counted> start, ToLongFunction<Counted> call, Class<? extends RuntimeException> want, Supplier<Counted> end) {
+        Counted t = start.get();
+        is(what, answer(t, call), want.getName());
+        is("the state behind " + what, t.lastState(), end.get().lastState());
+    }
+
+    /** The call answers so, without looking at what it changes. */
+    static void answers(String what, Supplier<Counted> start, ToLongFunction<Counted> call, long want) {
+        is(what, answer(start.get(), call), "" + want);
+    }
+
+    /** What a call answers, or the name of what it throws. */
+    static String answer(Counted t, ToLongFunction<Counted> call) {
         try {
-            got = "" + call.getAsLong();
+            return "" + call.applyAsLong(t);
         } catch (RuntimeException e) {
-            got = e.getClass().getName();
-        }
-        is(what, got, want.getName());
-        is("the state behind " + what, state(x), before);
-    }
-
-    static void feed(LeastTerms x, String bytes) {
-        for (int i = 0; i < bytes.length(); i++) {
-            x.feed(bytes.charAt(i));
+            return e.getClass().getName() + (isTheMachines(e) ? " of the machine" : "");
         }
     }
 
-    /** What read() answers of these bytes. */
-    static int read(LeastTerms x, String bytes) {
-        feed(x, bytes);
-        return x.read();
-    }
-
-    static String out(LeastTerms x) {
-        StringBuilder s = new StringBuilder();
-        for (int i = 0; x.out(i) != LeastTerms.NONE; i++) {
-            s.append((char) x.out(i));
-        }
-        return s.toString();
-    }
-
-    static String text(LeastTerms x, int a) {
-        int length = x.text(a);
-        String s = out(x);
-        is("the length of text(" + a + ")", length, s.length());
-        return s;
-    }
-
-    /** Shows a number that a call has just answered, and drops it again. */
-    static String made(LeastTerms x, int a) {
-        if (a < 0) {
-            return "refused " + a;
-        }
-        String s = text(x, a);
-        x.drop(a);
-        return s;
-    }
-
-    static void fill(LeastTerms x) {
-        for (int i = x.count(); i < 24; i++) {
-            x.whole(i);
-        }
-    }
-
-    /** All that can be seen without changing anything: the NUMBERS and OUT. */
-    static String state(LeastTerms x) {
-        StringBuilder s = new StringBuilder("count " + x.count() + "; ");
-        for (int a = 0; a < 24; a++) {
-            if (x.of(a, 3) > 0) {
-                s.append(a).append(": ").append(x.of(a, 0)).append(limbs(x, a, 0)).append(limbs(x, a, 1)).append("; ");
-            }
-        }
-        return s.append("out ").append(out(x)).toString();
-    }
-
-    private static String limbs(LeastTerms x, int a, int part) {
-        StringBuilder s = new StringBuilder(" /");
-        for (int i = 0; i < (x.of(a, 2 + part) + 31) / 32; i++) {
-            s.append(' ').append(Integer.toHexString(x.limb(a, part, i)));
-        }
-        return s.toString();
+    /** The class is to throw by itself: the machine's own exceptions have texts of these kinds, or none. */
+    private static boolean isTheMachines(RuntimeException e) {
+        String text = e.getMessage();
+        return text == null || text.equals("/ by zero") || text.startsWith("Index ") || text.matches("-?\\d+");
     }
 
     static void tell(String fault) {
         wrong++;
         if (wrong <= 40) {
-            System.out.println(fault.length() > 600 ? fault.substring(0, 600) + " .." : fault);
+            System.out.println(fault.length() > 900 ? fault.substring(0, 900) + " .." : fault);
         }
     }
 

@@ -46,7 +46,7 @@ final class Model {
         }
 
         int order(Fraction y) {
-            return minus(y).n.signum();
+            return n.multiply(y.d).compareTo(y.n.multiply(d));
         }
 
         Fraction size() {

@@ -2,14 +2,15 @@ import java.math.BigInteger;
 import java.util.Random;
 import java.util.function.LongSupplier;
 
-/** Long runs of calls, drawn from fixed seeds, on the class and on the model at once. */
+/** Runs of 512 calls, drawn from fixed seeds, on the class and on the model at once. */
 public final class ModelTest {
-    private static final int RUNS = 300;
-    private static final int CALLS = 512;
+    private static final int RUNS = 2500;
+    // What is left at the end of a run is used to look at what it holds.
+    private static final int CALLS_TO_LOOK = 150;
 
     private final Random random;
-    private final LeastTerms x = new LeastTerms();
-    private final Model m = new Model();
+    private Counted x = new Counted();
+    private Model m = new Model();
 
     private ModelTest(long seed) {
         random = new Random(seed);
@@ -24,13 +25,16 @@ public final class ModelTest {
     }
 
     private void both(String call, LongSupplier one, LongSupplier other) {
-        String want = answer(other);
-        Due.is(call, answer(one), want);
-        Due.is("count behind " + call, x.count(), m.count());
+        if (x.callsLeft() > 0) {
+            String want = answer(other);
+            Due.is(call, answer(one), want);
+        }
     }
 
+    // ---- what to ask with
+
     private int place() {
-        int kind = random.nextInt(40);
+        int kind = random.nextInt(60);
         if (kind == 0) {
             return random.nextInt();
         }
@@ -78,15 +82,8 @@ public final class ModelTest {
     }
 
     private String digits(int most) {
-        if (most > 100 && random.nextInt(4) == 0) {
-            return edgyNumber(random.nextBoolean() ? 16 : 4).toString();
-        }
-        if (random.nextInt(3) == 0) {
-            BigInteger v = new BigInteger(1 + random.nextInt(most == 160 ? 513 : 40), random);
-            return (random.nextInt(3) == 0 ? v.and(v.negate()).max(BigInteger.ONE) : v).toString();
-        }
         StringBuilder s = new StringBuilder();
-        int n = 1 + random.nextInt(random.nextInt(6) == 0 ? most : 9);
+        int n = 1 + random.nextInt(random.nextInt(8) == 0 ? most : 9);
         boolean flat = random.nextInt(5) == 0;
         for (int i = 0; i < n; i++) {
             s.append((char) ('0' + (flat ? 9 * (n & 1) : random.nextInt(10))));
@@ -97,21 +94,23 @@ public final class ModelTest {
     private String bytesToRead() {
         StringBuilder s = new StringBuilder(random.nextInt(3) == 0 ? "-" : "");
         int kind = random.nextInt(6);
-        if (kind == 0) {
+        if (kind < 2) {
             s.append(digits(80)).append('.').append(digits(82));
-        } else if (kind == 1) {
-            s.append(digits(160));
+        } else if (kind == 2) {
+            s.append(digits(162));
         } else {
-            s.append(digits(161)).append('/').append(digits(161));
+            s.append(digits(60)).append('/').append(digits(162));
         }
-        if (random.nextInt(12) == 0) {
+        if (random.nextInt(8) == 0) {
             s.insert(random.nextInt(s.length() + 1), "-/.0x:".charAt(random.nextInt(6)));
         }
-        if (random.nextInt(20) == 0) {
+        if (random.nextInt(16) == 0) {
             s.setLength(random.nextInt(s.length()));
         }
         return s.toString();
     }
+
+    // ---- calls
 
     private void feedAndRead() {
         String s = bytesToRead();
@@ -119,48 +118,48 @@ public final class ModelTest {
             int b = s.charAt(i);
             both("feed " + b, () -> x.feed(b), () -> m.feed(b));
         }
-        both("read of " + m.tape, x::read, m::read);
+        both("read of " + m.tape, () -> x.read(), () -> m.read());
     }
 
     private void makeOne(int kind) {
         int a = place();
         int b = place();
         switch (kind) {
-            case 0 -> {
-                long v = wideNumber();
+            case 0, 1 -> {
+                long v = random.nextInt(5) == 0 ? edgyNumber(2).longValue() : wideNumber();
                 both("whole " + v, () -> x.whole(v), () -> m.whole(v));
             }
-            case 1 -> {
+            case 2 -> {
                 int n = number(0, 16);
                 both("shifted " + n, () -> x.shifted(n), () -> m.shifted(n));
             }
-            case 2, 3 -> both("over " + a + " " + b, () -> x.over(a, b), () -> m.over(a, b));
-            case 4, 5, 6, 7 -> {
+            case 3, 4, 5 -> both("over " + a + " " + b, () -> x.over(a, b), () -> m.over(a, b));
+            case 6, 7, 8, 9 -> {
                 int op = number(0, 3);
                 both("apply " + op + " " + a + " " + b, () -> x.apply(op, a, b), () -> m.apply(op, a, b));
             }
-            case 8 -> {
+            case 10 -> {
                 int n = random.nextInt(3) == 0 ? number(-512, 512) : random.nextInt(13) - 6;
                 both("power " + a + " " + n, () -> x.power(a, n), () -> m.power(a, n));
             }
-            case 9 -> {
+            case 11 -> {
                 int how = number(0, 3);
                 both("near " + a + " " + how, () -> x.near(a, how), () -> m.near(a, how));
             }
-            case 10 -> both("common " + a + " " + b, () -> x.common(a, b), () -> m.common(a, b));
-            case 11 -> {
+            case 12 -> both("common " + a + " " + b, () -> x.common(a, b), () -> m.common(a, b));
+            case 13 -> {
                 int i = number(0, Math.max(1, m.terms(a)));
                 both("term " + a + " " + i, () -> x.term(a, i), () -> m.term(a, i));
             }
-            case 12 -> {
+            case 14 -> {
                 int n = number(1, Math.max(1, m.terms(a)));
                 both("part " + a + " " + n, () -> x.part(a, n), () -> m.part(a, n));
             }
-            case 13 -> {
+            case 15 -> {
                 long bound = random.nextInt(4) == 0 ? wideNumber() : 1 + (random.nextLong() >>> (1 + random.nextInt(63)));
                 both("best " + a + " " + bound, () -> x.best(a, bound), () -> m.best(a, bound));
             }
-            case 14 -> {
+            case 16 -> {
                 long bits = realBits();
                 both("ofReal " + bits, () -> x.ofReal(bits), () -> m.ofReal(bits));
             }
@@ -204,6 +203,7 @@ public final class ModelTest {
                 int what = number(0, 1);
                 both("period " + a + " " + what, () -> x.period(a, what), () -> m.period(a, what));
             }
+            case 11 -> both("count", () -> x.count(), () -> m.count());
             default -> {
                 int b = number(0, 255);
                 both("feed " + b, () -> x.feed(b), () -> m.feed(b));
@@ -211,98 +211,114 @@ public final class ModelTest {
         }
     }
 
-    private String modelState() {
-        StringBuilder s = new StringBuilder("count " + m.count() + "; ");
-        for (int a = 0; a < 24; a++) {
-            if (m.get(a) != null) {
-                s.append(a).append(": ").append(m.of(a, 0)).append(limbs(a, 0)).append(limbs(a, 1)).append("; ");
+    /** All that a NUMBER is, and where its limbs end. */
+    private void lookAtAll(int a) {
+        for (int k = 0; k < 4; k++) {
+            int what = k;
+            both("of " + a + " " + what, () -> x.of(a, what), () -> m.of(a, what));
+        }
+        for (int k = 0; k < 2; k++) {
+            int part = k;
+            for (int j = 0; j <= (m.of(a, 2 + part) + 31) / 32; j++) {
+                int i = j;
+                both("limb " + a + " " + part + " " + i, () -> x.limb(a, part, i), () -> m.limb(a, part, i));
             }
         }
-        return s.append("out ").append(m.out).toString();
-    }
-
-    private String limbs(int a, int part) {
-        StringBuilder s = new StringBuilder(" /");
-        for (int i = 0; i < (m.of(a, 2 + part) + 31) / 32; i++) {
-            s.append(' ').append(Integer.toHexString(m.limb(a, part, i)));
-        }
-        return s.toString();
     }
 
     private void run() {
-        for (int i = 0; i < CALLS; i++) {
+        while (x.callsLeft() > CALLS_TO_LOOK) {
             int kind = random.nextInt(20);
             if (kind < 11) {
                 makeOne(random.nextInt(18));
             } else if (kind < 17) {
-                lookAtOne(random.nextInt(12));
+                lookAtOne(random.nextInt(13));
             } else {
                 int a = place();
                 both("drop " + a, () -> x.drop(a), () -> m.drop(a));
             }
-            if (i % 8 == 0) {
-                Due.is("the state", Due.state(x), modelState());
-            }
         }
-        Due.is("the state at the end", Due.state(x), modelState());
+        both("count at the end", () -> x.count(), () -> m.count());
+        for (int i = 0; i < 40; i++) {
+            int b = i;
+            both("out " + b, () -> x.out(b), () -> m.out(b));
+        }
+        while (x.callsLeft() > 0) {
+            lookAtAll(random.nextInt(24));
+        }
     }
 
-    /** Floats and doubles beside and midway between two that follow one another. */
-    private static void roundings() {
-        Random random = new Random(77);
-        LeastTerms x = new LeastTerms();
-        Model m = new Model();
+    // ---- rows of one kind
+
+    private void startAnew() {
+        x = new Counted();
+        m = new Model();
+    }
+
+    private void put(BigInteger n, BigInteger d) {
+        Model.Fraction f = Model.Fraction.of(n, d);
+        m.numbers[x.put(f.n(), f.d())] = f;
+    }
+
+    /** Doubles or floats beside and midway between two that follow one another. */
+    private void roundings() {
         for (int i = 0; i < 4000; i++) {
             boolean isFloat = i % 2 == 0;
             double v = isFloat ? Float.intBitsToFloat(random.nextInt(0x7f800000)) : Double.longBitsToDouble((1023L + random.nextInt(700) - 400) << 52 | random.nextLong() >>> 12);
             double next = isFloat ? Math.nextUp((float) v) : Math.nextUp(v);
-            long[] bits = {Double.doubleToLongBits(v), Double.doubleToLongBits(next)};
-            int a = x.ofReal(bits[0]);
-            int b = x.ofReal(bits[1] == 0x7ff0000000000000L ? bits[0] : bits[1]);
-            if (a >= 0 && b >= 0) {
-                int two = x.whole(2);
-                int sum = x.apply(0, a, b);
-                int middle = sum < 0 ? -1 : x.over(sum, two);
-                int tiny = x.power(two, -490);
-                int[] all = {a, b, middle, middle < 0 ? -1 : x.apply(0, middle, tiny), middle < 0 ? -1 : x.apply(1, middle, tiny)};
-                for (int p : all) {
-                    if (p >= 0) {
-                        x.text(p);
-                        String s = Due.out(x);
-                        m.numbers[0] = fraction(s);
-                        Due.is("real of " + s, x.real(p), m.real(0));
-                        Due.is("single of " + s, x.single(p), m.single(0));
-                    }
-                }
+            long[] bits = {Double.doubleToLongBits(v), Double.doubleToLongBits(Double.isInfinite(next) ? v : next)};
+            startAnew();
+            for (long b : bits) {
+                both("ofReal " + b, () -> x.ofReal(b), () -> m.ofReal(b));
             }
-            for (int p = 0; p < 24; p++) {
-                x.drop(p);
+            both("whole 2", () -> x.whole(2), () -> m.whole(2));
+            both("the sum", () -> x.apply(0, 0, 1), () -> m.apply(0, 0, 1));
+            both("midway", () -> x.over(3, 2), () -> m.over(3, 2));
+            both("a tiny one", () -> x.power(2, -490), () -> m.power(2, -490));
+            both("above", () -> x.apply(0, 4, 5), () -> m.apply(0, 4, 5));
+            both("below", () -> x.apply(1, 4, 5), () -> m.apply(1, 4, 5));
+            for (int p = 0; p < 8; p++) {
+                int a = p;
+                both("real of " + m.get(a), () -> x.real(a), () -> m.real(a));
+                both("single of " + m.get(a), () -> x.single(a), () -> m.single(a));
             }
         }
     }
 
-    private static Model.Fraction fraction(String s) {
-        String[] sides = s.split("/");
-        return new Model.Fraction(new BigInteger(sides[0]), sides.length > 1 ? new BigInteger(sides[1]) : BigInteger.ONE);
-    }
-
-    /** Whole numbers of limbs at the edges: the rest of one by the other, and what they make as a chain. */
+    /** Whole numbers of limbs at the edges: the rest of one by the other, and what they make. */
     private void divisions() {
         for (int i = 0; i < 20000; i++) {
-            BigInteger n = edgyNumber(16);
-            BigInteger d = edgyNumber(random.nextBoolean() ? 3 : 12).max(BigInteger.ONE);
-            int a = Due.read(x, n.toString());
-            int b = Due.read(x, d.toString());
-            int rest = x.apply(3, a, b);
-            m.numbers[0] = new Model.Fraction(n, BigInteger.ONE);
-            m.numbers[1] = new Model.Fraction(d, BigInteger.ONE);
-            m.numbers[2] = new Model.Fraction(n.mod(d), BigInteger.ONE);
-            int ratio = x.over(a, b);
-            m.numbers[3] = Model.Fraction.of(n, d);
-            Due.is("the rest of " + n + " by " + d, Due.state(x), modelState());
-            Due.is("the terms of " + n + " / " + d, x.terms(ratio), m.terms(3));
-            for (int place = 0; place < 4; place++) {
-                x.drop(place);
+            startAnew();
+            put(edgyNumber(16), BigInteger.ONE);
+            put(edgyNumber(random.nextBoolean() ? 3 : 12).max(BigInteger.ONE), BigInteger.ONE);
+            both("the rest", () -> x.apply(3, 0, 1), () -> m.apply(3, 0, 1));
+            both("the quotient", () -> x.over(0, 1), () -> m.over(0, 1));
+            both("its terms", () -> x.terms(3), () -> m.terms(3));
+            both("its double", () -> x.real(3), () -> m.real(3));
+            for (int a = 0; a < 4; a++) {
+                lookAtAll(a);
+            }
+        }
+    }
+
+    /** Fractions of limbs at the edges, and all that is reckoned with two of them. */
+    private void reckonings() {
+        for (int i = 0; i < 4000; i++) {
+            startAnew();
+            put(edgyNumber(8).multiply(BigInteger.valueOf(random.nextInt(3) - 1)), edgyNumber(7).max(BigInteger.ONE));
+            put(edgyNumber(8).negate(), edgyNumber(7).max(BigInteger.TWO));
+            for (int k = 0; k < 4; k++) {
+                int op = k;
+                both("apply " + op, () -> x.apply(op, 0, 1), () -> m.apply(op, 0, 1));
+            }
+            both("over", () -> x.over(0, 1), () -> m.over(0, 1));
+            both("compare", () -> x.compare(0, 1), () -> m.compare(0, 1));
+            long bound = 1 + (random.nextLong() >>> (1 + random.nextInt(63)));
+            both("best " + bound, () -> x.best(0, bound), () -> m.best(0, bound));
+            int n = 1 + random.nextInt(Math.max(1, m.terms(1)));
+            both("part " + n, () -> x.part(1, n), () -> m.part(1, n));
+            for (int a = 0; a < 9; a++) {
+                lookAtAll(a);
             }
         }
     }
@@ -313,7 +329,8 @@ public final class ModelTest {
             new ModelTest(seed).run();
         }
         new ModelTest(0).divisions();
-        roundings();
+        new ModelTest(77).roundings();
+        new ModelTest(78).reckonings();
         Due.end("ModelTest");
     }
 }

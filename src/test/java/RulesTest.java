@@ -4,7 +4,6 @@ import java.lang.reflect.Constructor;
 import java.lang.reflect.Field;
 import java.lang.reflect.Method;
 import java.lang.reflect.Modifier;
-import java.math.BigInteger;
 import java.nio.file.Files;
 import java.nio.file.Path;
 import java.util.Arrays;
@@ -122,32 +121,27 @@ public final class RulesTest {
 
     /** No call makes anything; an object takes some thousands of elements, once. */
     private static void room() {
-        BigInteger n = BigInteger.valueOf(3).pow(322);
-        BigInteger d = BigInteger.valueOf(7).pow(180);
-        String first = n + "/" + d;
-        String second = "-" + d.subtract(BigInteger.TWO) + "/" + n;
-        everyCall(new LeastTerms(), first, second);
+        everyCall(new LeastTerms());
         made();
         long start = made();
         LeastTerms x = new LeastTerms();
         long built = made();
-        everyCall(x, first, second);
+        everyCall(x);
         long end = made();
-        Due.is("an object's bytes are few", built - start < 20000 ? 1 : 0, 1);
-        Due.is("the bytes that all calls make", end - built < 2000 ? 0 : end - built, 0);
+        Due.isTrue("an object's bytes are few: " + (built - start), built - start < 20000);
+        Due.isTrue("all calls make nothing: " + (end - built), end - built < 2000);
     }
 
-    private static void everyCall(LeastTerms x, String first, String second) {
-        for (int i = 0; i < first.length(); i++) {
-            x.feed(first.charAt(i));
-        }
-        int a = x.read();
-        for (int i = 0; i < second.length(); i++) {
-            x.feed(second.charAt(i));
-        }
-        int b = x.read();
+    /** Some 500 calls. */
+    private static void everyCall(LeastTerms x) {
+        int three = x.whole(3);
+        int seven = x.whole(-7);
+        int first = x.power(three, 322);
+        int second = x.power(seven, 181);
+        int a = x.over(first, second);
+        int b = x.over(second, first);
         int big = x.whole(Long.MIN_VALUE);
-        for (int i = 0; i < 40; i++) {
+        for (int i = 0; i < 13; i++) {
             x.drop(x.shifted(15));
             x.drop(x.over(a, b));
             x.drop(x.apply(0, a, b));
@@ -159,6 +153,10 @@ public final class RulesTest {
             x.drop(x.part(a, 100));
             x.drop(x.best(a, Long.MAX_VALUE));
             x.drop(x.ofReal(0x3ff123456789abcdL));
+            x.feed('1');
+            x.feed('/');
+            x.feed('3');
+            x.drop(x.read());
             x.compare(a, b);
             x.of(a, 2);
             x.limb(a, 0, 1);
@@ -169,6 +167,7 @@ public final class RulesTest {
             x.text(a);
             x.figures(a, 100);
             x.period(a, 1);
+            x.out(1);
         }
     }
 
