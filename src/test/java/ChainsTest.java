@@ -62,6 +62,25 @@ public final class ChainsTest {
         }
     }
 
+    /** All terms and parts of all chains, one behind the other on one object. */
+    private static void chainsInTurn() {
+        Counted t = Counted.holding("415/93", "-1/3", "649/200", "-5");
+        String[][] rows = {CHAINS[9], CHAINS[8], CHAINS[11], CHAINS[2]};
+        for (int k = 0; k < 4; k++) {
+            for (int a = 0; a < 4; a++) {
+                String[] terms = rows[a][1].split(" ");
+                String[] parts = rows[a][2].split(" ");
+                int i = k % terms.length;
+                int term = t.term(a, i);
+                int part = t.part(a, i + 1);
+                Due.is("term " + i + " of " + rows[a][0], t.value(term), terms[i]);
+                Due.is("part " + (i + 1) + " of " + rows[a][0], t.value(part), parts[i]);
+                Due.is("terms of " + rows[a][0], t.terms(a), terms.length);
+                t.dropped(term, part);
+            }
+        }
+    }
+
     /** Two neighbours of Fibonacci's row have the longest chain of their width. */
     private static void longestChain() {
         BigInteger p = BigInteger.ONE;
@@ -116,6 +135,8 @@ public final class ChainsTest {
         best(GREATEST + "/" + HALF, Long.MAX_VALUE, "2");
         best("1/9223372036854775807", Long.MAX_VALUE, "1/9223372036854775807");
         best("1/9223372036854775808", Long.MAX_VALUE, "1/9223372036854775807");
+        best("1/4611686018427387904", Long.MAX_VALUE, "1/4611686018427387904");
+        best("3/13835058055282163713", Long.MAX_VALUE, "1/4611686018427387904");
         best("1/18446744073709551613", Long.MAX_VALUE, "1/9223372036854775807");
         best("-1/18446744073709551613", Long.MAX_VALUE, "-1/9223372036854775807");
         best("1/18446744073709551615", Long.MAX_VALUE, "0");
@@ -196,6 +217,7 @@ public final class ChainsTest {
         promise14();
         promise15();
         promise16();
+        chainsInTurn();
         longestChain();
         nearest();
         ties();

@@ -168,6 +168,21 @@ final class Counted {
         return this;
     }
 
+    /** Reckons something else, of which nothing may be left but in rows that are used again. */
+    Counted stirred(int sign) {
+        int a = whole(sign * 415);
+        int b = whole(93);
+        int c = over(a, b);
+        int part = part(c, 3);
+        int best = best(c, 20);
+        int term = term(c, 2);
+        real(c);
+        terms(c);
+        compare(a, c);
+        int power = power(c, 3);
+        return dropped(a, b, c, part, best, term, power);
+    }
+
     int put(String fraction) {
         String[] sides = fraction.split("/");
         return put(new BigInteger(sides[0]), sides.length > 1 ? new BigInteger(sides[1]) : BigInteger.ONE);

@@ -27,9 +27,14 @@ final class Due {
         is(what, got ? "true" : "false", "true");
     }
 
-    /** The call makes a NUMBER more, and it is this one. */
+    /** The call makes a NUMBER more, and it is this one, whatever was reckoned before. */
     static void makes(String what, Supplier<Counted> start, ToLongFunction<Counted> call, Object want) {
-        Counted t = start.get();
+        makesFrom(what, start.get(), call, want);
+        makesFrom(what + " behind others", start.get().stirred(1), call, want);
+        makesFrom(what + " behind others below 0", start.get().stirred(-1), call, want);
+    }
+
+    private static void makesFrom(String what, Counted t, ToLongFunction<Counted> call, Object want) {
         int before = t.count();
         is(what, t.value((int) call.applyAsLong(t)), want.toString());
         is("count behind " + what, t.count(), before + 1);
